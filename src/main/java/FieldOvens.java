@@ -280,8 +280,12 @@ public final class FieldOvens {
         if (what < 0 || what > 1 || part < 0 || part > 1) {
             return OUTSIDE;
         }
+        March gone = marches[march];
+        for (int way = 0; way <= gone.wayOn(); way++) {
+            solved(plan, march, way);
+        }
         int above = weighed(plan, march, what);
-        int below = marches[march].allChances();
+        int below = gone.allChances();
         int common = commonDivisor(above, below);
         if (common == 0) {
             return 0;
@@ -343,9 +347,11 @@ public final class FieldOvens {
             return STATE;
         }
         fiveDone++;
+        March gone = marches[march];
         pitch(plan, march);
         for (int early = 0; early <= EARLIEST; early++) {
-            if (camp.feedsAll(theLand, marches[march], early)) {
+            camp.feed(theLand, gone, gone.wayOn(), early);
+            if (camp.hungry == 0) {
                 return early;
             }
         }
@@ -389,7 +395,12 @@ public final class FieldOvens {
         int worstPlace = 1;
         int most = 0;
         for (int p = 1; p < theLand.places; p++) {
-            int more = theLand.flour[p] == 0 ? 0 : hungryBurnt(plan, march, p) - now;
+            if (theLand.flour[p] == 0) {
+                continue;
+            }
+            otherLand.become(theLand);
+            otherLand.flour[p] = 0;
+            int more = hungryIn(otherLand, plan, march, plans[plan].ovens) - now;
             if (more > most) {
                 most = more;
                 worstPlace = p;
@@ -418,7 +429,8 @@ public final class FieldOvens {
     }
 
     public int which(int march) {
-        if (marchOf(march) == null) {
+        March gone = marchOf(march);
+        if (gone == null) {
             return UNKNOWN;
         }
         if (theLand.places == 0 || fiveDone >= FIVE_AT_MOST) {
@@ -427,6 +439,9 @@ public final class FieldOvens {
         fiveDone++;
         int best = NONE, leastHungry = 0, leastCarried = 0;
         for (int plan = 0; plan < planCount; plan++) {
+            for (int way = 0; way <= gone.wayOn(); way++) {
+                solved(plan, march, way);
+            }
             int hungry = weighed(plan, march, 0);
             int carried = weighed(plan, march, 1);
             if (best == NONE || hungry < leastHungry || hungry == leastHungry && carried < leastCarried) {
@@ -483,7 +498,12 @@ public final class FieldOvens {
             h = marchInto(h, marches[march]);
         }
         for (int plan = 0; plan < planCount; plan++) {
-            h = planInto(h, plan);
+            h = planInto(h, plans[plan]);
+            if (theLand.places > 0 && marchCount > 0 && !(plans[plan] instanceof Best)) {
+                pitch(plan, 0);
+                h = 31 * h + camp.stands.count;
+                h = 31 * h + keptHungry[solved(plan, 0, marches[0].wayOn())];
+            }
         }
         for (int i = 0; i < thePage.count; i++) {
             h = 31 * h + thePage.letters[i];
@@ -528,17 +548,10 @@ public final class FieldOvens {
         return h;
     }
 
-    private long planInto(long digest, int number) {
-        Base plan = plans[number];
+    private static long planInto(long digest, Base plan) {
         long h = 31 * digest + plan.kind();
         h = 31 * h + plan.ovens;
-        h = 31 * h + plan.number;
-        if (theLand.places == 0 || marchCount == 0 || plan instanceof Best) {
-            return h;
-        }
-        pitch(number, 0);
-        h = 31 * h + camp.stands.count;
-        return 31 * h + keptHungry[solved(number, 0, marches[0].wayOn())];
+        return 31 * h + plan.number;
     }
 
     /** How many letters w tells; NONE: it is not as told. */
@@ -629,24 +642,28 @@ public final class FieldOvens {
         }
     }
 
+    private static int keptAt(int plan, int march, int way) {
+        return (plan * MARCHES + march) * WAYS + way;
+    }
+
     /** Where HUNGRY and CARRIED are kept for a plan by a way of a march: they are worked out then. */
     private int solved(int plan, int march, int way) {
-        int kept = (plan * MARCHES + march) * WAYS + way;
+        int kept = keptAt(plan, march, way);
         if (keptHungry[kept] == NONE) {
             pitch(plan, march);
-            camp.feed(theLand, marches[march], way);
+            camp.feed(theLand, marches[march], way, 0);
             keptHungry[kept] = camp.hungry;
             keptCarried[kept] = camp.carried;
         }
         return kept;
     }
 
-    /** HUNGRY (0) or CARRIED (1) of all ways, each as many times as it has chances of allChances(). */
+    /** HUNGRY (0) or CARRIED (1) of all ways, which are solved, each as often as it comes of allChances(). */
     private int weighed(int plan, int march, int what) {
         March gone = marches[march];
         int sum = 0;
         for (int way = 0; way <= gone.wayOn(); way++) {
-            int kept = solved(plan, march, way);
+            int kept = keptAt(plan, march, way);
             sum += gone.chancesOf(way) * (what == 0 ? keptHungry[kept] : keptCarried[kept]);
         }
         return sum;
@@ -669,14 +686,8 @@ public final class FieldOvens {
 
     private int hungryIn(Land land, int plan, int march, int ovens) {
         plans[plan].pitch(camp, land, marches[march], ovens);
-        camp.feed(land, marches[march], marches[march].wayOn());
+        camp.feed(land, marches[march], marches[march].wayOn(), 0);
         return camp.hungry;
-    }
-
-    private int hungryBurnt(int plan, int march, int place) {
-        otherLand.become(theLand);
-        otherLand.flour[place] = 0;
-        return hungryIn(otherLand, plan, march, plans[plan].ovens);
     }
 
     /** Letters that wait to be read, and how far a reader has come: up to the first one that cannot stand. */
@@ -854,24 +865,25 @@ public final class FieldOvens {
                 return false;
             }
             for (int item = 0; item < Page.ROOM && !page.atEnd(); item++) {
+                boolean fits;
                 if (page.take('m')) {
                     now = page.number(1, 2);
-                    if (now < 0) {
-                        return false;
-                    }
-                } else if (!readChance(page, now) && !readSteps(page, now)) {
+                    fits = now > 0;
+                } else if (days < DAYS && chances < CHANCES && page.take('c')) {
+                    fits = readTenths(page, now);
+                } else {
+                    fits = readSteps(page, now);
+                }
+                if (!fits) {
                     return false;
                 }
             }
             return days > 0;
         }
 
-        private boolean readChance(Page page, int now) {
-            if (days >= DAYS || chances >= CHANCES || !page.take('c')) {
-                return false;
-            }
+        private boolean readTenths(Page page, int now) {
             int value = page.digit(1, 9);
-            if (value < 0) {
+            if (value < 0 || chances >= CHANCES) {
                 return false;
             }
             tenths[chances] = value;
@@ -1107,7 +1119,7 @@ public final class FieldOvens {
                         continue;
                     }
                     settle(camp, land, march, PLACES * one + two);
-                    camp.feed(land, march, march.wayOn());
+                    camp.feed(land, march, march.wayOn(), 0);
                     boolean less = camp.hungry < leastHungry
                             || camp.hungry == leastHungry && camp.carried < leastCarried;
                     if (best == NOWHERE || less) {
@@ -1202,17 +1214,9 @@ public final class FieldOvens {
         final Net net = new Net();
         int hungry, carried;
 
-        /** HUNGRY and CARRIED by a way. */
-        void feed(Land land, March march, int way) {
-            feedEarly(land, march, way, 0);
-        }
-
-        boolean feedsAll(Land land, March march, int early) {
-            feedEarly(land, march, march.wayOn(), early);
-            return hungry == 0;
-        }
-
-        private void feedEarly(Land land, March march, int way, int early) {
+        /** HUNGRY and CARRIED by a way, if each stand was begun so many days early. */
+        void feed(Land land, March march, int way, int early) {
+            net.clear(FIRST_FREE, true);
             lay(land, march, way, early);
             for (int day = 0; day < march.days; day++) {
                 net.edge(DAY_NODE + day, Net.SINK, march.men[day], 0);
@@ -1224,6 +1228,8 @@ public final class FieldOvens {
 
         /** The first day up to which more go without than this; NONE: there is none. */
         int firstLack(Land land, March march, int way, int bearable) {
+            // Days come to the net one by one: by prices what flows already would have to be led anew.
+            net.clear(FIRST_FREE, false);
             lay(land, march, way, 0);
             int men = 0;
             for (int day = 0; day < march.days; day++) {
@@ -1237,50 +1243,46 @@ public final class FieldOvens {
             return NONE;
         }
 
-        /** The net up to the days, if each stand was begun so many days early. */
+        /** The net, which is clear, up to the days; those who eat on them are for the caller to lay. */
         private void lay(Land land, March march, int way, int early) {
             march.walk(land.places, way, column);
-            countBaking(land, early);
-            net.clear(FIRST_FREE);
+            countBaking(land.build, early);
             for (int p = 0; p < land.places; p++) {
                 net.edge(Net.SOURCE, FLOUR_NODE + p, land.flour[p], 0);
-                for (int i = 0; i < BAKING_DAYS; i++) {
-                    int most = baking[p * BAKING_DAYS + i] * land.bakes;
-                    if (most > 0) {
-                        layOven(land, p, i - EARLIEST, early, most);
-                        layBread(land, march, p, i - EARLIEST, most);
+            }
+            for (int i = 0; i < baking.length; i++) {
+                int most = baking[i] * land.bakes;
+                if (most == 0) {
+                    continue;
+                }
+                int place = i / BAKING_DAYS;
+                int day = i % BAKING_DAYS - EARLIEST;
+                // Flour comes in by one node, bread goes out by another: between them no more than is baked.
+                int in = net.addNode();
+                int out = net.addNode();
+                net.edge(in, out, most, 0);
+                net.edge(FLOUR_NODE + place, in, most, 0);
+                if (place > 0 && day >= place - early) {
+                    net.edge(FLOUR_NODE, in, most, place);
+                }
+                int last = Math.min(day + land.keep, march.days - 1);
+                for (int eaten = Math.max(day, 0); eaten <= last; eaten++) {
+                    int distance = Math.abs(column[eaten] - place);
+                    if (eaten - day >= distance) {
+                        net.edge(out, DAY_NODE + eaten, most, distance);
                     }
                 }
             }
         }
 
-        private void countBaking(Land land, int early) {
+        private void countBaking(int build, int early) {
             Arrays.fill(baking, 0);
             for (int i = 0; i < stands.count; i++) {
                 int row = stands.place[i] * BAKING_DAYS + EARLIEST;
-                for (int day = stands.from[i] - early + land.build; day <= stands.to[i]; day++) {
+                int first = Math.max(stands.from[i] - early + build, -EARLIEST);
+                int last = Math.min(stands.to[i], DAYS - 1);
+                for (int day = first; day <= last; day++) {
                     baking[row + day]++;
-                }
-            }
-        }
-
-        /** Flour comes in by the one node, bread goes out by the other: between them no more than is baked. */
-        private void layOven(Land land, int place, int day, int early, int most) {
-            int in = net.addNode();
-            int out = net.addNode();
-            net.edge(in, out, most, 0);
-            net.edge(FLOUR_NODE + place, in, most, 0);
-            if (place > 0 && day >= place - early) {
-                net.edge(FLOUR_NODE, in, most, place);
-            }
-        }
-
-        private void layBread(Land land, March march, int place, int day, int most) {
-            int last = Math.min(day + land.keep, march.days - 1);
-            for (int eaten = Math.max(day, 0); eaten <= last; eaten++) {
-                int distance = Math.abs(column[eaten] - place);
-                if (eaten - day >= distance) {
-                    net.edge(net.nodes - 1, DAY_NODE + eaten, most, distance);
                 }
             }
         }
@@ -1293,7 +1295,9 @@ public final class FieldOvens {
         static final int NODES = Camp.FIRST_FREE + 2 * PLACES * Camp.BAKING_DAYS;
         // From flour 8, to days 10, three for each oven, of bread at most 100 for each place, each with its reverse.
         static final int EDGES = 2 * (PLACES + DAYS + 3 * PLACES * Camp.BAKING_DAYS + 100 * PLACES);
-        static final int ENDLESS = 1 << 28, TURNS = 1000000;
+        // More than all who may eat, in hundreds: each path brings one of them bread at least.
+        static final int PATHS = 1000;
+        static final int ENDLESS = 1 << 28;
         final int[] to = new int[EDGES];
         final int[] room = new int[EDGES];
         final int[] cost = new int[EDGES];
@@ -1304,9 +1308,11 @@ public final class FieldOvens {
         final int[] arc = new int[NODES];
         final boolean[] seen = new boolean[NODES];
         int nodes, edges, flow, spent;
+        boolean priced;
 
-        void clear(int many) {
+        void clear(int many, boolean withPrices) {
             nodes = Math.min(many, NODES);
+            priced = withPrices;
             edges = 0;
             flow = 0;
             spent = 0;
@@ -1320,31 +1326,35 @@ public final class FieldOvens {
             return nodes - 1;
         }
 
-        void edge(int from, int where, int most, int price) {
-            if (edges + 1 < EDGES) {
-                half(from, where, most, price);
-                half(where, from, 0, -price);
+        /** An edge and, behind it, its reverse, by which what flows may be taken back. */
+        void edge(int from, int where, int most, int distance) {
+            if (edges + 1 >= EDGES) {
+                return;
             }
-        }
-
-        private void half(int from, int where, int most, int price) {
+            int price = priced ? distance : 0;
             to[edges] = where;
             room[edges] = most;
             cost[edges] = price;
             next[edges] = first[from];
             first[from] = edges;
             edges++;
+            to[edges] = from;
+            room[edges] = 0;
+            cost[edges] = -price;
+            next[edges] = first[where];
+            first[where] = edges;
+            edges++;
         }
 
         /** As much more as can flow by what has been laid, always by a way of the least cost. */
         void fill() {
-            for (int round = 0; round < TURNS && measure(); round++) {
+            for (int round = 0; round < PATHS && measure(); round++) {
                 System.arraycopy(first, 0, arc, 0, nodes);
                 for (int n = 0; n < nodes; n++) {
                     seen[n] = false;
                 }
                 int length = thread();
-                for (int path = 0; path < TURNS && length > 0; path++) {
+                for (int path = 0; path < PATHS && length > 0; path++) {
                     push(length);
                     length = thread();
                 }
@@ -1361,12 +1371,12 @@ public final class FieldOvens {
             line[0] = SOURCE;
             int head = 0;
             int waiting = 1;
-            for (int turn = 0; turn < TURNS && waiting > 0; turn++) {
+            for (int turn = 0; turn < NODES * NODES && waiting > 0; turn++) {
                 int node = line[head];
                 head = head + 1 == NODES ? 0 : head + 1;
                 waiting--;
                 seen[node] = false;
-                for (int e = first[node]; e >= 0; e = next[e]) {
+                for (int e = first[node], left = edges; e >= 0 && left > 0; e = next[e], left--) {
                     int there = to[e];
                     if (room[e] > 0 && dist[node] + cost[e] < dist[there]) {
                         dist[there] = dist[node] + cost[e];
@@ -1386,10 +1396,10 @@ public final class FieldOvens {
         private int thread() {
             int node = SOURCE;
             int length = 0;
-            for (int turn = 0; turn < TURNS && node != SINK; turn++) {
+            for (int turn = 0; turn < 2 * NODES && node != SINK; turn++) {
                 seen[node] = true;
                 int e = arc[node];
-                while (e >= 0 && (room[e] == 0 || seen[to[e]] || dist[node] + cost[e] != dist[to[e]])) {
+                for (int left = edges; left > 0 && e >= 0 && !leads(node, e); left--) {
                     e = next[e];
                 }
                 arc[node] = e;
@@ -1407,10 +1417,15 @@ public final class FieldOvens {
             return node == SINK ? length : 0;
         }
 
+        private boolean leads(int node, int e) {
+            return room[e] > 0 && !seen[to[e]] && dist[node] + cost[e] == dist[to[e]];
+        }
+
         private void push(int length) {
             int most = ENDLESS;
             for (int i = 0; i < length; i++) {
-                most = Math.min(most, room[line[i]]);
+                int free = room[line[i]];
+                most = free < most ? free : most;
             }
             for (int i = 0; i < length; i++) {
                 int e = line[i];
