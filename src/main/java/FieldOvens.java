@@ -1112,10 +1112,10 @@ public final class FieldOvens {
         /** The ovens' places as the figures of a number by PLACES; NOWHERE: no place has wood. */
         int choice(Camp camp, Land land, March march) {
             int best = NOWHERE, leastHungry = 0, leastCarried = 0;
-            for (int one = 0; one < PLACES; one++) {
-                int last = ovens == 1 ? one : PLACES - 1;
+            for (int one = 0; one < land.places; one++) {
+                int last = ovens == 1 ? one : land.places - 1;
                 for (int two = one; two <= last; two++) {
-                    if (land.wood[one] == 0 || land.wood[two] == 0 || two >= land.places) {
+                    if (land.wood[one] == 0 || land.wood[two] == 0) {
                         continue;
                     }
                     settle(camp, land, march, PLACES * one + two);
