@@ -10,6 +10,8 @@ public final class FuzzTest {
     private final SlowOvens slow = new SlowOvens();
     private final int run;
     private final int mostPlaces;
+    // A rich run has wood and flour nearly everywhere and few wrong numbers.
+    private final boolean rich;
     private int calls = 0;
 
     private FuzzTest(int run) {
@@ -17,11 +19,13 @@ public final class FuzzTest {
         chance = new Random(7000 + run);
         // Most runs are of small lands: there SlowOvens is quick and ties are many.
         mostPlaces = run % 8 == 0 ? 8 : 2 + run % 4;
+        rich = run % 3 != 0;
     }
 
     public static void main(String[] args) {
         int runs = args.length > 1 ? Integer.parseInt(args[1]) : RUNS;
         for (int run = 0; run < runs; run++) new FuzzTest(run).play();
+        for (int run = 0; run < runs / 4; run++) new FuzzTest(run).playLargeNets();
         CHECK.end();
     }
 
@@ -36,6 +40,27 @@ public final class FuzzTest {
         due("digest()", quick.digest(), slow.digest());
     }
 
+    /** Six ovens that stand from the first day to the last, for a column that wants nearly all their bread. */
+    private void playLargeNets() {
+        StringBuilder land = new StringBuilder();
+        StringBuilder told = new StringBuilder();
+        for (int p = 0; p < 8; p++) land.append(p == 0 ? "" : ",").append(30 + upTo(200)).append('w');
+        int bakes = 1 + upTo(2);
+        land.append(";b").append(bakes).append('d').append(upTo(2)).append('k').append(9 - upTo(upTo(9) == 0 ? 8 : 1));
+        int first = upTo(2);
+        for (int i = 0; i < 6; i++) told.append(i == 0 ? "" : ",").append(first + i).append("d0-9");
+        write(land.toString());
+        due("land()", quick.land(), slow.land());
+        write(told.toString());
+        due("tell()", quick.tell(), slow.tell());
+        for (int march = 0; march < 4; march++) {
+            write((1 + bakes * (2 + upTo(8))) + ":" + "fs".charAt(upTo(1)) + (2 + upTo(1)) + "f2sb3f");
+            due("march()", quick.march(), slow.march());
+            due("ahead of " + land + " " + told, quick.ahead(0, march), slow.ahead(0, march));
+        }
+        due("digest()", quick.digest(), slow.digest());
+    }
+
     private void due(String call, long got, long want) {
         calls++;
         CHECK.due("run " + run + " call " + calls + ": " + call, got, want);
@@ -47,7 +72,7 @@ public final class FuzzTest {
 
     /** Mostly from 0 to one beyond the last, at times anything. */
     private int number(int last) {
-        int dice = chance.nextInt(30);
+        int dice = chance.nextInt(rich ? 200 : 30);
         if (dice == 0) return -1 - upTo(2);
         if (dice == 1) return last + 1;
         if (dice == 2) return new int[] {Integer.MIN_VALUE, Integer.MAX_VALUE, 1 << 16, -100}[upTo(3)];
@@ -64,13 +89,13 @@ public final class FuzzTest {
     private String landText() {
         StringBuilder text = new StringBuilder();
         int places = 2 + upTo(mostPlaces - 2), mostFlour = new int[] {9, 30, 99, 999}[upTo(3)];
-        int woods = 1 + upTo(5);
+        int woods = rich ? 5 : 1 + upTo(5);
         for (int p = 0; p < places; p++) {
             if (p > 0) text.append(',');
-            text.append(upTo(2) == 0 ? 0 : upTo(mostFlour));
+            text.append(upTo(rich ? 9 : 2) == 0 ? 0 : upTo(mostFlour));
             if (upTo(5) < woods) text.append('w');
         }
-        text.append(";b").append(1 + upTo(upTo(1) == 0 ? 9 : 98)).append('d').append(upTo(4) == 0 ? upTo(9) : upTo(2));
+        text.append(";b").append(1 + upTo(upTo(1) == 0 ? 9 : 98)).append('d').append(upTo(4) == 0 ? upTo(9) : upTo(rich ? 1 : 2));
         text.append('k').append(1 + upTo(8));
         if (upTo(1) == 0) text.append('r').append(upTo(upTo(1) == 0 ? 20 : 999));
         return text.toString();

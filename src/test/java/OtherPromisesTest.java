@@ -46,6 +46,8 @@ public final class OtherPromisesTest {
         CHECK.due("23: nine days", nine.ahead(Check.told(nine, "0d0-9"), 0), 9);
         FieldOvens ten = made("9w,0;b1d9k9", "1:f");
         CHECK.due("23: ten days are too many", ten.ahead(Check.told(ten, "0d0-9"), 0), NONE);
+        FieldOvens all = made("99w,0w;b1d0k9", "10:s");
+        CHECK.due("23: from the ninth day ahead on", all.ahead(Check.told(all, "0d0-0"), 0), 9);
         FieldOvens late = made("9w,9w;b9d0k9", "1:s");
         CHECK.due("23: a stand that is none is not begun sooner", late.ahead(late.plan(0, 1, 1), 0), NONE);
         FieldOvens chance = made("9w,9w;b9d0k9", "1:c1");
