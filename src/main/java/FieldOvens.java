@@ -1304,7 +1304,9 @@ public final class FieldOvens {
         final int[] next = new int[EDGES];
         final int[] first = new int[NODES];
         final int[] dist = new int[NODES];
+        // Nodes that wait while measure() runs, edges of a path while thread() does.
         final int[] line = new int[NODES];
+        // The edge of each node by which thread() goes on; those ahead of it led nowhere.
         final int[] arc = new int[NODES];
         final boolean[] seen = new boolean[NODES];
         int nodes, edges, flow, spent;
@@ -1399,7 +1401,10 @@ public final class FieldOvens {
             for (int turn = 0; turn < 2 * NODES && node != SINK; turn++) {
                 seen[node] = true;
                 int e = arc[node];
-                for (int left = edges; left > 0 && e >= 0 && !leads(node, e); left--) {
+                for (int left = edges; left > 0 && e >= 0; left--) {
+                    if (room[e] > 0 && !seen[to[e]] && dist[node] + cost[e] == dist[to[e]]) {
+                        break;
+                    }
                     e = next[e];
                 }
                 arc[node] = e;
@@ -1415,10 +1420,6 @@ public final class FieldOvens {
                 }
             }
             return node == SINK ? length : 0;
-        }
-
-        private boolean leads(int node, int e) {
-            return room[e] > 0 && !seen[to[e]] && dist[node] + cost[e] == dist[to[e]];
         }
 
         private void push(int length) {
