@@ -92,6 +92,17 @@ public final class EdgesOfOthersTest extends Edges {
         due("by the way on", x.ahead(0, 0), 0);
     }
 
+    @Says("AHEAD: the least number e (0 to 9)")
+    void p23_allOvensAllDays() {
+        // An oven at place p bakes for 19 days, and all but the last p of them are in time: 19 to 14, 99 in all.
+        String land = "19w,18w,17w,16w,15w,14w;b1d0k9", told = "0d0-9,1d0-9,2d0-9,3d0-9,4d0-9,5d0-9";
+        ahead(land, "10:s9m9s", told, 9);
+        ahead(land, "10:s9s", told, NONE);
+        ahead(land, "9:s9s", told, 8);
+        ahead("19w,18w,17w,16w,15w,13w;b1d0k9", "10:s9m9s", told, NONE);
+        ahead("18w,18w,17w,16w,15w,14w;b1d0k9", "10:s9m9s", told, NONE);
+    }
+
     // ---- 24 far
 
     @Says("UNKNOWN: plan; STATE; OUTSIDE: men (1 to 99); STATE.")

@@ -165,6 +165,14 @@ public final class EdgesOfPlansTest extends Edges {
         planned("1w,1w;b1d0k1", "1:fb2", plan(1, 1, 1), 1, 0, 0, 0, 2, 2);
     }
 
+    @Says("and THE SPOT for that t (if there is none, t is one DAY later, and so on)")
+    void p15_followNoSpotAmidTheMarch() {
+        planned("1,1w;b1d0k1", "1:fb2f", plan(1, 1, 1), 1, 0, 0, 1, 3, 3);
+        planned("1,1w;b1d0k1", "1:fb8f", plan(1, 1, 1), 1, 0, 0, 1, 9, 9);
+        planned("1,1w;b1d0k1", "1:fb9", plan(1, 1, 1), 1, 0, 0);
+        planned("1,1w,1w;b1d0k1", "1:fbf3", plan(1, 1, 1), 1, 0, 0, 1, 2, 2, 2, 4, 4);
+    }
+
     @Says("A LEAP: likewise, but THE SPOT for t by where the column is n DAYS later (on the last DAY at most).")
     void p15_leapOnTheLastDayAtMost() {
         planned("1w,1w;b1d0k1", "1:s9f", plan(2, 1, 9), 1, 0, 8, 1, 9, 9);
@@ -194,6 +202,30 @@ public final class EdgesOfPlansTest extends Edges {
         planned("9w,9w;b5d0k9", "2:f2", plan(3, 2, 0), 0, 0, 1, 1, 1, 1);
         planned("9w,9w;b5d0k9", "1:sf", plan(3, 1, 0), 0, 0, 1);
         planned("9w,9w;b5d0k9", "2:c1f", plan(3, 1, 0), 1, 1, 1);
+    }
+
+    @Says("that by which HUNGRY by THE WAY ON is least, of like ones CARRIED")
+    void p15_bestByStandsAsABaseHas() {
+        // Begun a day sooner the oven at place 1 would feed two more; as it is, place 2 carries less.
+        planned("0w,9w,9w;b5d0k9", "1:f4", plan(3, 1, 0), 2, 2, 3);
+    }
+
+    @Says("STANDS of a PLAN for a MARCH")
+    void p15_bestForEachMarchAndPlan() {
+        FieldOvens x = new FieldOvens();
+        Check.land(x, "9w,9w,9w;b5d0k9");
+        String[] marches = {"1:s3", "1:s4", "1:f4", "1:s2"};
+        int[] one = {0, 0, 2, 0};
+        for (String march : marches) Check.march(x, march);
+        for (int plan = 0; plan < 8; plan++) x.plan(3, 1 + plan % 2, 0);
+        for (int plan = 0; plan < 8; plan++) {
+            for (int march = 3; march >= 0; march--) {
+                String name = "plan " + plan + ", march " + march;
+                due(name + ": how many", x.stand(plan, march, 0), 1 + plan % 2);
+                if (plan % 2 == 0) due(name + ": place", x.stand(plan, march, 11), one[march]);
+                due(name + ": last day", x.stand(plan, march, 13), x.marchTold(march, 0) - 1);
+            }
+        }
     }
 
     // ---- 16 bakes
@@ -322,6 +354,14 @@ public final class EdgesOfPlansTest extends Edges {
         fed("1w,0;b1d1k1", "1:s", "0d0-0", 1, 0);
     }
 
+    @Says("It is baked from FLOUR of that PLACE, or of the TOWN")
+    void p17_ofThatPlaceOrOfTheTown() {
+        fed("0w,3w;b9d0k9", "1:f4", "1d0-9", 1, 0);
+        fed("1w,3w;b9d0k9", "1:f4", "1d0-9", 0, 1);
+        fed("0,9w,0w;b9d0k9", "1:f4", "2d0-9", 4, 0);
+        fed("9w,9w;b9d0k9", "1:s4", "0d0-9", 0, 0);
+    }
+
     @Says("CARRIED: of each hundred the PLACES that its bread goes, and those that its FLOUR went.")
     void p18_noneAndTheFarthest() {
         fed("9w,0;b9d0k9", "1:s9s", "0d0-0", 1, 0);
@@ -425,6 +465,18 @@ public final class EdgesOfPlansTest extends Edges {
         mean(y, 1, 0, 198, 1);
     }
 
+    @Says("MEAN: HUNGRY, CARRIED over all WAYS by their chances.")
+    void p20_eachWayByItsChance() {
+        // By way 0 to 3 none, 1, none, 2 go hungry, and none, 1, 1, none is carried.
+        FieldOvens x = made("9w,0,0;b9d0k1", "1:c9c1", "0d0-0");
+        Check.march(x, "1:c1c9");
+        Check.march(x, "1:c9c9");
+        mean(x, 0, 0, 81 + 2 * 9, 100);
+        mean(x, 0, 1, (81 + 1) / 2, 50);
+        mean(x, 1, 0, 1 + 2 * 9, 100);
+        mean(x, 2, 0, 9 + 2 * 81, 100);
+    }
+
     @Says("MEAN of HUNGRY (what = 0), CARRIED (1), in lowest terms")
     void p20_ofNothing() {
         FieldOvens x = made("9w,9w;b9d0k9", "1:c5c5", "0d0-9,1d0-9");
@@ -515,6 +567,18 @@ public final class EdgesOfPlansTest extends Edges {
                 due("draw " + drawn + " of " + tenths, x.run(0, 0, seed, 0), drawn < tenths ? 1 : 0);
                 due("its hungry", x.run(0, 0, seed, 1), drawn < tenths ? 1 : 0);
             }
+        }
+    }
+
+    @Says("A DRAW of d: the next SEED, by 65536 (rounded down), its rest by d")
+    void p22_roundedDown() {
+        // Seeds whose next one, rounded down or up, is drawn as 9: only by the first it stands.
+        FieldOvens x = made("9w,9w;b5d0k9", "1:c9", "0d0-0");
+        for (int seed = 0, found = 0; found < 20; seed++) {
+            long next = next(seed);
+            if (next / 65536 % 10 != 9 && (next + 65535) / 65536 % 10 != 9) continue;
+            due("seed " + seed, x.run(0, 0, seed, 0), next / 65536 % 10 == 9 ? 0 : 1);
+            found++;
         }
     }
 

@@ -40,6 +40,18 @@ public final class EdgesOfTextsTest extends Edges {
         due("the 512th call", x.count(3), 60);
     }
 
+    @Says("An object is used for at most 512 calls after it has been made; what later calls answer is free.")
+    void p01_dearCallsUpToThe512th() {
+        FieldOvens x = made("0w,9w,9w,9w,9w,9w,9w,9w;b9d0k9", "1:s9s", "0d0-9,1d0-9,2d0-9,3d0-9,4d0-9,5d0-9");
+        int calls = 16;
+        for (; calls + 2 <= 510; calls += 2) {
+            x.flour(0, calls % 4 == 0 ? 10 : 1);
+            x.hungry(0, 0, 0);
+        }
+        x.flour(0, 1);
+        due("the last call: by the town 1, by place 1 to 5 all but day 0", x.carried(0, 0, 0), 9);
+    }
+
     // ---- 2 letters
 
     @Says("Letters come behind THE PAGE, up to eight")
@@ -199,6 +211,58 @@ public final class EdgesOfTextsTest extends Edges {
         due("digest()", x.digest(), before);
     }
 
+    @Says({"The place (from 0) of the first letter of THE PAGE that no LAND", "(sort 0; PLACES as many as told)"})
+    void p04_whatStandsBesideTheDigitsInALand() {
+        for (char beside : new char[] {'/', ':'}) {
+            atFault(LAND, beside + "", 0);
+            atFault(LAND, "1," + beside, 2);
+            atFault(LAND, "1,2" + beside, 3);
+            atFault(LAND, "1,22" + beside, 4);
+            atFault(LAND, "1,2;b" + beside, 5);
+            atFault(LAND, "1,2;b1" + beside, 6);
+            atFault(LAND, "1,2;b1d" + beside, 7);
+            atFault(LAND, "1,2;b1d0k" + beside, 9);
+            atFault(LAND, "1,2;b1d0k1r" + beside, 11);
+            atFault(LAND, "1,2;b1d0k1r1" + beside, 12);
+        }
+    }
+
+    @Says("MARCH (1; DAYS as many as told)")
+    void p04_whatStandsBesideTheDigitsInAMarch() {
+        for (char beside : new char[] {'/', ':'}) {
+            atFault(MARCH, beside + "", 0);
+            atFault(MARCH, "1:" + beside, 2);
+            atFault(MARCH, "1:f" + beside, 3);
+            atFault(MARCH, "1:c" + beside, 3);
+            atFault(MARCH, "1:m" + beside, 3);
+            atFault(MARCH, "1:m1" + beside, 4);
+        }
+        atFault(MARCH, "1/", 1);
+    }
+
+    @Says("TOLD plan (2) has there, behind those ahead of it")
+    void p04_whatStandsBesideTheDigitsInATold() {
+        for (char beside : new char[] {'/', ':'}) {
+            atFault(TOLD, beside + "", 0);
+            atFault(TOLD, "0d" + beside, 2);
+            atFault(TOLD, "0d0" + beside, 3);
+            atFault(TOLD, "0d0-" + beside, 4);
+            atFault(TOLD, "0d0-0" + beside, 5);
+        }
+    }
+
+    @Says("The place (from 0) of the first letter of THE PAGE that no LAND")
+    void p04_otherLetters() {
+        for (char other : new char[] {1, ' ', 'F', 'W', '~'}) {
+            atFault(LAND, other + "", 0);
+            atFault(LAND, "1" + other, 1);
+            atFault(MARCH, other + "", 0);
+            atFault(MARCH, "1:" + other, 2);
+            atFault(TOLD, other + "", 0);
+            atFault(TOLD, "1" + other, 1);
+        }
+    }
+
     // ---- 5 land
 
     @Says("STATE: it is none.")
@@ -220,6 +284,19 @@ public final class EdgesOfTextsTest extends Edges {
         due("two places", Check.land(x, "5w,6;b2d3k4"), 2);
         due("digest()", x.digest(), digestOf(2, 2, 3, 4, 0, 5, 1, 6, 0, 1, 1, 1, 4, 0, 0, 1, 1, 2, 1, 1, 0, 2, 0));
         due("place 2 is gone", x.place(2, 0), UNKNOWN);
+    }
+
+    @Says("THE PAGE is read as THE LAND (another one is gone; MARCHES and PLANS stay)")
+    void p05_noAnswerOfTheOneAhead() {
+        FieldOvens x = made("9w,0w;b9d0k9", "1:sf", "0d0-0,1d1-1");
+        x.plan(3, 1, 0);
+        due("hungry", x.hungry(0, 0, 0), 0);
+        due("carried", x.carried(0, 0, 0), 1);
+        due("best", x.stand(1, 0, 11), 0);
+        Check.land(x, "0w,9w;b9d0k9");
+        due("hungry then", x.hungry(0, 0, 0), 1);
+        due("carried then", x.carried(0, 0, 0), 0);
+        due("best then", x.stand(1, 0, 11), 1);
     }
 
     @Says("PLACES (2 to 8) with \",\" between")
@@ -814,6 +891,12 @@ public final class EdgesOfTextsTest extends Edges {
         due("forward", x.at(0, 0, 0), 1);
         due("it stands", x.at(1, 0, 0), 0);
         due("back", x.at(2, 0, 0), 0);
+    }
+
+    @Says("PLACE 0 is the TOWN; from one to the next is a DAY.")
+    void p14_aPlaceADay() {
+        FieldOvens x = made(EIGHT + OVENS, "1:f7");
+        for (int day = 0; day < 7; day++) due("day " + day, x.at(0, 0, day), day + 1);
     }
 
     @Says("A WAY of a MARCH is told by bits: bit i is 1, if it goes forward on its i-th DAY by chance.")
